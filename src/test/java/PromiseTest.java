@@ -1,14 +1,5 @@
 /** Promise by promise: ordinary inputs, the edges that the document names, and wrong inputs. */
-final class PromiseTest {
-    private static final int BAD = LayerVault.BAD;
-    private static final int NONE = LayerVault.NONE;
-    private static final int FULL = LayerVault.FULL;
-    private static final int LEAST = Integer.MIN_VALUE;
-    private static final int MOST = Integer.MAX_VALUE;
-
-    private final Due due = new Due();
-    private LayerVault x;
-
+final class PromiseTest extends Bench {
     public static void main(String[] args) {
         PromiseTest test = new PromiseTest();
         test.newObject();
@@ -39,32 +30,6 @@ final class PromiseTest {
         test.segment();
         test.look();
         test.due.end();
-    }
-
-    private void fresh(String about) {
-        due.about(about);
-        x = new LayerVault();
-    }
-
-    /** Commits one batch that gives each key the value 100 * round + key. */
-    private void write(int round, int... keys) {
-        for (int i = 0; i < keys.length; i++) {
-            due.is("put(" + keys[i] + ")", x.put(keys[i], 100 * round + keys[i], 0), i + 1);
-        }
-        due.is("commit()", x.commit(), keys.length);
-    }
-
-    private void erase(int... keys) {
-        for (int i = 0; i < keys.length; i++) {
-            due.is("delete(" + keys[i] + ")", x.delete(keys[i]), i + 1);
-        }
-        due.is("commit()", x.commit(), keys.length);
-    }
-
-    private void tablesAre(int level0, int level1, int level2) {
-        due.is("table(0, -1, 0)", x.table(0, -1, 0), level0);
-        due.is("table(1, -1, 0)", x.table(1, -1, 0), level1);
-        due.is("table(2, -1, 0)", x.table(2, -1, 0), level2);
     }
 
     private void newObject() {
@@ -167,13 +132,7 @@ final class PromiseTest {
 
     /** Eight segments of two records each, with two cells to spare; the first has the keys 0 .. 11. */
     private void fillTheLog() {
-        write(1, 0, 1, 2, 3, 4, 5);
-        write(1, 6, 7, 8, 9, 10, 11);
-        for (int round = 2; round < 16; round++) {
-            write(round, 12, 13, 14, 15, 16, 17);
-        }
-        due.is("segment(-1, 0)", x.segment(-1, 0), 8);
-        due.is("segment(7, 1)", x.segment(7, 1), 14);
+        fillSegments(8, keys(0, 1, 2, 3, 4, 5), keys(6, 7, 8, 9, 10, 11));
     }
 
     private void commitThatIsFull() {
