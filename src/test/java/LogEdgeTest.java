@@ -122,6 +122,26 @@ final class LogEdgeTest extends Bench {
         is("get(-1, 31)", 131);
     }
 
+    @Says(promise = 8, words = "of which the entries have their values then")
+    void whatWasWrittenAgainKeepsItsSerialAndItsLife() {
+        writeFor(0, 10, 5);
+        write(1, 1, 2, 3, 4, 5, 6);
+        is("flush()", 7);
+        is("tick(2)", 2);
+        write(2, 7, 8, 9, 10, 11, 12);
+        is("segment(-1, 0)", 1);
+        write(3, 13);
+        is("collect()", 13);
+        is("look(1)", 14);
+        is("table(0, 0, 4)", 14);
+        is("table(0, 1, 4)", 7);
+        is("tick(2)", 4);
+        is("get(-1, 0)", 10);
+        is("tick(1)", 5);
+        is("has(-1, 0)", false);
+        is("get(-1, 1)", 101);
+    }
+
     /** Written from key 11 down to 0: by cells the record that stays in the head has 11 .. 6, by keys it had 0 .. 5. */
     @Says(promise = 8, words = "in the order of their cells")
     void theFirstCellsAreWrittenFirst() {
@@ -136,6 +156,22 @@ final class LogEdgeTest extends Bench {
         is("merge(0)", 6 + 6);
         is("segment(0, 2)", 3);
         is("segment(1, 2)", 6);
+    }
+
+    /** In a tail that was written to again the older entries have the later cells: 4 and 5 are the last ones there. */
+    @Says(promise = 8, words = "in the order of their cells")
+    void theOrderOfCellsIsNotThatOfSerials() {
+        makeTailWith(6);
+        is("collect()", 6);
+        write(2, 20, 21, 22, 23, 24, 25);
+        is("collect()", 2 + 6);
+        is("segment(0, 2)", 6 + 6);
+        is("segment(1, 2)", 2);
+        erase(4, 5);
+        is("flush()", 2);
+        ask("merge(0)");
+        is("segment(0, 2)", 6 + 6);
+        is("segment(1, 2)", 0);
     }
 
     /** Entries of the tail from level 2, level 1 and level 0 that lie in its cells in another order. */
@@ -306,8 +342,8 @@ final class LogEdgeTest extends Bench {
         is("get(-1, 0)", 1300);
     }
 
-    @Says(promise = 8, words = "A value of a segment is LIVE if an entry that isn't dropped (in a table or the memtable) "
-        + "and is no deletion has it.")
+    @Says(promise = 8, words = "A value of a segment is LIVE if an entry that isn't dropped (in a table or the "
+        + "memtable) and is no deletion has it.")
     void anExpiredValueIsWrittenAgain() {
         is("put(0, 10, 1)", 1);
         is("put(1, 11, 0)", 2);
@@ -351,8 +387,8 @@ final class LogEdgeTest extends Bench {
         is("look(2)", 3);
     }
 
-    @Says(promise = 12, words = "keep of the records that aren't synced stay (all, if there are fewer; 0, if keep is below 0): "
-        + "how many were lost.")
+    @Says(promise = 12, words = "keep of the records that aren't synced stay (all, if there are fewer; 0, if keep is "
+        + "below 0): how many were lost.")
     void from0ToAllRecordsStay() {
         String[] keep = {"LEAST", "-1", "0", "1", "2", "3", "4", "MOST"};
         int[] lost = {3, 3, 3, 2, 1, 0, 0, 0};
@@ -407,7 +443,7 @@ final class LogEdgeTest extends Bench {
     @Says(promise = 12, words = "snapshots and the batch made ready are lost")
     void snapshotsAndBatchAreLostThoughNoRecordIs() {
         write(1, 1);
-        allAre(1, "sync()");
+        is("sync()", 1);
         for (int snapshot = 0; snapshot < 3; snapshot++) {
             is("take()", snapshot);
         }
@@ -436,8 +472,8 @@ final class LogEdgeTest extends Bench {
         entriesAre(1, 1);
     }
 
-    @Says(promise = 12, words = "the others are as if they had never been written "
-        + "(a head that was begun for one of them isn't there), nor their entries")
+    @Says(promise = 12, words = "the others are as if they had never been written (a head that was begun for one of "
+        + "them isn't there), nor their entries")
     void allIsAsIfTheLostRecordsHadNeverBeenWritten() {
         comeToTheSame(this::makeSomeThatStays, () -> is("crash(0)", 0), () -> {
             is("take()", 0);
@@ -597,7 +633,7 @@ final class LogEdgeTest extends Bench {
 
     @Says(promise = 18, words = "NONE if there is none or what isn't 0 .. 2.")
     void segmentsAreCountedFrom0() {
-        allAre(0, "segment(0, 0)");
+        is("segment(0, 0)", 0);
         allAre(NONE, "segment(1, 0)", "segment(-2, 0)", "segment(LEAST, 0)", "segment(MOST, 0)");
         fillSegments(8);
         is("segment(7, 0)", 7);
@@ -624,7 +660,7 @@ final class LogEdgeTest extends Bench {
         is("put(1, 1, 0)", 1);
         is("put(2, 1, 0)", 2);
         is("commit()", FULL);
-        is("segment(-1, 0)", 8);
+        allAre(8, "segment(-1, 0)", "segment(-1, 1)", "segment(-1, 2)");
     }
 
     @Says(promise = 18, words = "THE LOG is a row of SEGMENTS with numbers, from the TAIL to the HEAD")
@@ -657,7 +693,8 @@ final class LogEdgeTest extends Bench {
         is("segment(0, 2)", 13);
     }
 
-    @Says(promise = 18, words = "A value of a segment is LIVE if an entry that isn't dropped (in a table or the memtable)")
+    @Says(promise = 18, words = "A value of a segment is LIVE if an entry that isn't dropped (in a table or the "
+        + "memtable)")
     void aValueIsLiveUntilItsEntryIsDropped() {
         write(1, 1);
         is("take()", 0);

@@ -30,9 +30,9 @@ final class ReadEdgeTest extends Bench {
     void theLowestFreeNumberIsGiven() {
         for (int freed = 0; freed < 3; freed++) {
             renew();
-            allAre(0, "take()");
-            allAre(1, "take()");
-            allAre(2, "take()");
+            is("take()", 0);
+            is("take()", 1);
+            is("take()", 2);
             is("release(" + freed + ")", true);
             is("take()", freed);
             is("release(2)", true);
@@ -71,16 +71,16 @@ final class ReadEdgeTest extends Bench {
             is("take()", snapshot);
         }
         erase(5);
-        allAre(105, "get(0, 5)");
-        allAre(205, "get(1, 5)");
-        allAre(305, "get(2, 5)");
+        is("get(0, 5)", 105);
+        is("get(1, 5)", 205);
+        is("get(2, 5)", 305);
         is("has(-1, 5)", false);
         is("flush()", 4);
         entriesAre(0, 4);
         is("release(1)", true);
         is("merge(0)", 1);
-        allAre(105, "get(0, 5)");
-        allAre(305, "get(2, 5)");
+        is("get(0, 5)", 105);
+        is("get(2, 5)", 305);
         is("has(1, 5)", false);
     }
 
@@ -108,7 +108,8 @@ final class ReadEdgeTest extends Bench {
 
     @Says(promise = 10, words = "A snapshot is gone; false if it isn't there.")
     void onlyASnapshotThatIsThereIsReleased() {
-        allAre(0, "release(-1)", "release(0)", "release(1)", "release(2)", "release(3)", "release(LEAST)", "release(MOST)");
+        allAre(0, "release(0)", "release(1)", "release(2)");
+        allAre(0, "release(-1)", "release(3)", "release(LEAST)", "release(MOST)");
         write(1, 1);
         is("take()", 0);
         is("take()", 1);
@@ -291,8 +292,8 @@ final class ReadEdgeTest extends Bench {
         is("probes()", 0);
     }
 
-    @Says(promise = 14, words = "of the entries of the key that it sees the one with the greatest serial decides: "
-        + "if there is none, or it is gone, the key is ABSENT, otherwise it has its value")
+    @Says(promise = 14, words = "of the entries of the key that it sees the one with the greatest serial decides: if "
+        + "there is none, or it is gone, the key is ABSENT, otherwise it has its value")
     void underAnEntryThatIsGoneNothingIsSeen() {
         write(1, 1, 2);
         is("flush()", 2);
@@ -333,11 +334,11 @@ final class ReadEdgeTest extends Bench {
         }
         is("get(-1, 3)", 103);
         is("flush()", 4);
-        allAre(103, "get(-1, 3)");
+        is("get(-1, 3)", 103);
         is("merge(0)", 0);
-        allAre(103, "get(-1, 3)");
+        is("get(-1, 3)", 103);
         is("merge(1)", 0);
-        allAre(103, "get(-1, 3)");
+        is("get(-1, 3)", 103);
         is("take()", 0);
         write(2, 3);
         is("get(-1, 3)", 203);
@@ -476,8 +477,8 @@ final class ReadEdgeTest extends Bench {
         is("probes()", 1);
     }
 
-    @Says(promise = 16, words = "level 0 from the newest one, level 1, level 2 from the first one, in each that MAY hold the key, "
-        + "until it is found")
+    @Says(promise = 16, words = "level 0 from the newest one, level 1, level 2 from the first one, in each that MAY "
+        + "hold the key, until it is found")
     void tablesAreGoneThroughUntilTheKeyIsFound() {
         is("take()", 0);
         write(1, 5);
@@ -516,6 +517,15 @@ final class ReadEdgeTest extends Bench {
         is("tick(1)", 1);
         is("get(-1, 5)", 0);
         is("probes()", 1);
+        is("take()", 0);
+        is("merge(0)", 2);
+        erase(5);
+        is("flush()", 1);
+        tablesAre(1, 1, 0);
+        is("get(-1, 5)", 0);
+        is("probes()", 1);
+        is("get(0, 5)", 0);
+        is("probes()", 2);
     }
 
     /** The keys 6 and 8 have the same bits, 9 and 31: here only first and last tell them apart. */
@@ -586,8 +596,9 @@ final class ReadEdgeTest extends Bench {
         allAre(NONE, "look(-1)", "look(5)");
     }
 
-    @Says(promise = 19, words = "what 0 how many entries the memtable has, 1 the latest serial (0: none), "
-        + "2 how many records aren't synced, 3 how many writes the batch that is made ready has, 4 how many snapshots there are")
+    @Says(promise = 19, words = "what 0 how many entries the memtable has, 1 the latest serial (0: none), 2 how many "
+        + "records aren't synced, 3 how many writes the batch that is made ready has, 4 how many snapshots there "
+        + "are")
     void everyLookGoesFrom0ToItsMost() {
         for (int n = 1; n <= 8; n++) {
             write(n, 5);

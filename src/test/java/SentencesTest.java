@@ -16,7 +16,7 @@ final class SentencesTest {
     private static final Class<?>[] TESTS = {
         WriteEdgeTest.class, TableEdgeTest.class, LogEdgeTest.class, ReadEdgeTest.class,
     };
-    // The constants have a test of their own, FaceTest; what a later call answers is free.
+    // The constants have a test of their own, FaceTest.
     private static final String[] TESTED_ELSEWHERE = {
         "The constants: `BAD = -1`: A number that can't be.", "`NONE = -2`: Nothing is there.", "`FULL = -3`: No room.",
     };
@@ -40,7 +40,8 @@ final class SentencesTest {
     private void read() throws IOException {
         for (String part : Files.readString(DOCUMENT).split("(?m)^## ")) {
             int end = part.indexOf('\n');
-            sections.put(part.substring(0, end).replaceFirst(":.*", ""), part.substring(end).replaceAll("\\s+", " ").trim());
+            String title = part.substring(0, end).replaceFirst(":.*", "");
+            sections.put(title, part.substring(end).replaceAll("\\s+", " ").trim());
         }
     }
 
@@ -51,7 +52,8 @@ final class SentencesTest {
                 Says says = test.getAnnotation(Says.class);
                 String ofAll = sections.get("What it is") + sections.get("Terms");
                 String place = sections.get("Promise " + says.promise()) + ofAll;
-                due.is(test.getName() + " quotes \"" + says.words() + "\", in the document", place.contains(says.words()), true);
+                boolean said = place.contains(says.words());
+                due.is(test.getName() + ": the document says \"" + says.words() + "\"", said, true);
                 tested[says.promise()] = true;
                 quotes.add(says.words());
             }

@@ -105,7 +105,8 @@ final class TableEdgeTest extends Bench {
         is("table(0, 0, 4)", 4);
     }
 
-    @Says(promise = 6, words = "what is left is the newest table of level 0, the memtable is empty; all records are synced")
+    @Says(promise = 6, words = "what is left is the newest table of level 0, the memtable is empty; all records are "
+        + "synced")
     void afterAFlushAllRecordsAreSynced() {
         for (int key = 1; key <= 8; key++) {
             write(1, key);
@@ -262,7 +263,8 @@ final class TableEdgeTest extends Bench {
         entriesAre(2, 6, 5);
     }
 
-    @Says(promise = 7, words = "When level 0 was merged and level 1 has more than 12 entries then, level 1 is merged too.")
+    @Says(promise = 7, words = "When level 0 was merged and level 1 has more than 12 entries then, level 1 is merged "
+        + "too.")
     void twelveStayOnLevel1() {
         makeTwelveOnLevel1();
         // Fourteen come together, of which twelve are left: only what is left then counts.
@@ -273,7 +275,8 @@ final class TableEdgeTest extends Bench {
         entriesAre(2);
     }
 
-    @Says(promise = 7, words = "When level 0 was merged and level 1 has more than 12 entries then, level 1 is merged too.")
+    @Says(promise = 7, words = "When level 0 was merged and level 1 has more than 12 entries then, level 1 is merged "
+        + "too.")
     void thirteenGoOnToLevel2() {
         makeTwelveOnLevel1();
         write(2, 12);
@@ -283,7 +286,8 @@ final class TableEdgeTest extends Bench {
         entriesAre(2, 6, 6, 1);
     }
 
-    @Says(promise = 7, words = "When level 0 was merged and level 1 has more than 12 entries then, level 1 is merged too.")
+    @Says(promise = 7, words = "When level 0 was merged and level 1 has more than 12 entries then, level 1 is merged "
+        + "too.")
     void theMergeOfAFlushGoesOnToo() {
         makeTwelveOnLevel1();
         for (int key = 12; key < 16; key++) {
@@ -296,6 +300,70 @@ final class TableEdgeTest extends Bench {
         entriesAre(0, 1);
         entriesAre(1);
         entriesAre(2, 6, 6, 4);
+    }
+
+    /** Twelve entries on level 1, all seen apart, and four tables of eight: no level 0 and 1 have more to merge. */
+    @Says(promise = 7, words = "all entries of it and of level 1 (2) are sifted for level 1 (2)")
+    void theMostThatComesTogetherForLevel1IsKept() {
+        makeTwelveOnLevel1();
+        is("take()", 0);
+        writeAllKeysInTablesOf8(2);
+        is("merge(0)", 0);
+        entriesAre(1);
+        entriesAre(2, 6, 6, 6, 6, 6, 6, 6, 2);
+        for (int key = 0; key < 32; key++) {
+            is("get(-1, " + key + ")", 200 + key);
+            is("get(0, " + key + ")", key < 12 ? 100 + key : 0);
+        }
+    }
+
+    private void writeAllKeysInTablesOf8(int round) {
+        for (int key = 0; key < 32; key += 8) {
+            write(round, key, key + 1, key + 2, key + 3);
+            write(round, key + 4, key + 5, key + 6, key + 7);
+        }
+        is("flush()", 8);
+        entriesAre(0, 8, 8, 8, 8);
+    }
+
+    /** Of each key a value and three deletions, told apart by three snapshots: no level 2 has more. */
+    @Says(promise = 7, words = "an entry that is gone is dropped if no entry of its key with a lower serial is left "
+        + "in the set")
+    void theMostThatIsOnLevel2IsKeptOrDropped() {
+        writeAllKeysInTablesOf8(1);
+        for (int snapshot = 0; snapshot < 3; snapshot++) {
+            is("take()", snapshot);
+            eraseAllKeys(32);
+        }
+        for (String call : new String[] {"flush()", "merge(0)", "merge(1)"}) {
+            ask(call);
+        }
+        entriesAre(2, 6, 6, 6, 6, 6, 6, 6, 6, 6, 6, 6, 6, 6, 6, 6, 6, 6, 6, 6, 6, 6, 2);
+        is("scan(0, 0, 31)", 31);
+        allAre(NONE, "scan(1, 0, 0)", "scan(2, 0, 0)", "scan(-1, 0, 0)");
+        allAre(1, "release(0)", "release(1)", "release(2)");
+        eraseAllKeys(12);
+        is("flush()", 4);
+        is("merge(0)", 0);
+        entriesAre(1, 6, 6);
+        is("take()", 0);
+        eraseAllKeys(32);
+        is("flush()", 8);
+        entriesAre(0, 8, 8, 8, 8);
+        // The snapshot keeps two deletions of each key until nothing is left below them.
+        is("merge(0)", 32 + 12 + 4 * 32);
+        tablesAre(0, 0, 0);
+        is("scan(0, 0, 0)", NONE);
+    }
+
+    /** Deletes the keys below a number, and makes room in the log for it. */
+    private void eraseAllKeys(int below) {
+        for (int i = 0; i < 8 && ask("segment(-1, 0)") > 4; i++) {
+            ask("collect()");
+        }
+        for (int key = 0; key < below; key += 4) {
+            erase(key, key + 1, key + 2, key + 3);
+        }
     }
 
     /** Entries of the key 5 with the serials 1 and 3, one of 6 between, and a snapshot that sees so far. */
@@ -409,7 +477,8 @@ final class TableEdgeTest extends Bench {
         is("merge(1)", droppedOnLevel2);
     }
 
-    @Says(promise = 7, words = "an entry that is gone is dropped if no entry of its key with a lower serial is left in the set")
+    @Says(promise = 7, words = "an entry that is gone is dropped if no entry of its key with a lower serial is left "
+        + "in the set")
     void aLoneDeletionIsDroppedForLevel2Alone() {
         erase(5);
         is("flush()", 1);
@@ -420,7 +489,8 @@ final class TableEdgeTest extends Bench {
         tablesAre(0, 0, 0);
     }
 
-    @Says(promise = 7, words = "an entry that is gone is dropped if no entry of its key with a lower serial is left in the set")
+    @Says(promise = 7, words = "an entry that is gone is dropped if no entry of its key with a lower serial is left "
+        + "in the set")
     void aLoneValueIsDroppedForLevel2WhenItExpires() {
         for (int time = 4; time <= 6; time++) {
             renew();
@@ -431,7 +501,8 @@ final class TableEdgeTest extends Bench {
         }
     }
 
-    @Says(promise = 7, words = "an entry that is gone is dropped if no entry of its key with a lower serial is left in the set")
+    @Says(promise = 7, words = "an entry that is gone is dropped if no entry of its key with a lower serial is left "
+        + "in the set")
     void aDeletionOverAValueThatIsLeftIsKept() {
         write(1, 5);
         is("take()", 0);
@@ -443,7 +514,8 @@ final class TableEdgeTest extends Bench {
     }
 
     /** The entry of a lower serial is on level 2 already, or comes with it: both are in the set. */
-    @Says(promise = 7, words = "an entry that is gone is dropped if no entry of its key with a lower serial is left in the set")
+    @Says(promise = 7, words = "an entry that is gone is dropped if no entry of its key with a lower serial is left "
+        + "in the set")
     void aDeletionOverAValueOfLevel2IsKeptForASnapshot() {
         write(1, 5, 4);
         mergeDown(2, 0, 0);
@@ -556,7 +628,7 @@ final class TableEdgeTest extends Bench {
         allAre(0, "table(0, -1, 0)", "table(1, -1, 0)", "table(2, -1, 0)");
         allAre(NONE, "table(-1, -1, 0)", "table(3, -1, 0)", "table(LEAST, -1, 0)", "table(MOST, -1, 0)");
         makeTables(4);
-        allAre(4, "table(0, -1, 0)");
+        allAre(4, "table(0, -1, 0)", "table(0, -1, 1)", "table(0, -1, 2)", "table(0, -1, 3)", "table(0, -1, 4)");
         allAre(0, "table(1, -1, 0)", "table(2, -1, 0)");
         allAre(NONE, "table(-1, -1, 0)", "table(3, -1, 0)");
     }
@@ -685,6 +757,24 @@ final class TableEdgeTest extends Bench {
         is("table(1, 0, 1)", (1 << 1) + (1 << 7) + (1 << 28) + (1 << 12) + (1 << 0) + (1 << 24));
         is("merge(1)", 1);
         is("table(2, 0, 1)", (1 << 1) + (1 << 7) + (1 << 28) + (1 << 12));
+    }
+
+    @Says(promise = 17, words = "The filter of a table has these two bits of each of its entries' keys.")
+    void ofKeysThatWentOnNoBitsAreLeft() {
+        write(1, 0, 1, 2, 3, 4, 5);
+        is("flush()", 6);
+        allAre(0, "merge(0)", "merge(1)");
+        erase(0, 1, 2, 3, 4, 5);
+        is("flush()", 6);
+        is("merge(0)", 0);
+        is("merge(1)", 12);
+        write(2, 31);
+        is("flush()", 1);
+        is("table(0, 0, 1)", 1 << 28);
+        is("merge(0)", 0);
+        is("table(1, 0, 1)", 1 << 28);
+        is("merge(1)", 0);
+        is("table(2, 0, 1)", 1 << 28);
     }
 
     @Says(promise = 17, words = "1 its FILTER as an int, bit 31 its sign")

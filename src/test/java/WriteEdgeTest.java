@@ -246,6 +246,11 @@ final class WriteEdgeTest extends Bench {
     void anEmptyBatchIsNotCommitted() {
         is("commit()", NONE);
         allAre(0, "look(0)", "look(1)", "look(2)", "segment(0, 1)");
+        // Not FULL either, though there is no cell left for a record of any length.
+        fillSegments(8);
+        write(50, 20);
+        is("segment(7, 1)", 16);
+        is("commit()", NONE);
     }
 
     /** The memtable is full, the head has one cell left and level 0 four tables: a record would change each. */
@@ -328,7 +333,8 @@ final class WriteEdgeTest extends Bench {
         is("segment(1, 1)", 2);
     }
 
-    @Says(promise = 4, words = "A RECORD of n values takes 1 + n cells of one segment (a deletion counts as a value here).")
+    @Says(promise = 4, words = "A RECORD of n values takes 1 + n cells of one segment (a deletion counts as a value "
+        + "here).")
     void aRecordTakesOneCellMoreThanItHasValues() {
         int[] of = {1, 2, 3, 4, 5, 6};
         for (int n = 1; n <= 6; n++) {
