@@ -6,7 +6,7 @@ import java.util.TreeSet;
 
 /** The class has the document's face and nothing more that can be seen from outside. */
 final class FaceTest {
-    private static final String[] FACE = {
+    static final String[] FACE = {
         "public static final int BAD", "public static final int NONE", "public static final int FULL",
         "public LayerVault()",
         "public int put(int,int,int)", "public int delete(int)", "public int commit()", "public int sync()",

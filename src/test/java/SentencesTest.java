@@ -5,10 +5,14 @@ import java.nio.file.Path;
 import java.util.ArrayList;
 import java.util.List;
 import java.util.TreeMap;
+import java.util.TreeSet;
+import java.util.regex.Matcher;
+import java.util.regex.Pattern;
 
 /**
  * The words that the tests of single sentences quote stand in the document, under their promise or in what holds for
- * all of them, and no sentence there is without a test. Where the document isn't found, there is nothing to check.
+ * all of them, no sentence there is without a test, and the face is the one that FaceTest asks for. Where the document
+ * isn't found, there is nothing to check.
  */
 final class SentencesTest {
     private static final Path DOCUMENT = Path.of("..", "shared", "DOC.md");
@@ -16,10 +20,12 @@ final class SentencesTest {
     private static final Class<?>[] TESTS = {
         WriteEdgeTest.class, TableEdgeTest.class, LogEdgeTest.class, ReadEdgeTest.class,
     };
-    // The constants have a test of their own, FaceTest.
+    // The first sentence has a test of its own, HistoryTest, and so have the constants, FaceTest.
     private static final String[] TESTED_ELSEWHERE = {
+        "A store of keys whose values lie in a log apart",
         "The constants: `BAD = -1`: A number that can't be.", "`NONE = -2`: Nothing is there.", "`FULL = -3`: No room.",
     };
+    private static final Pattern MEMBER = Pattern.compile("public (?!final class)[^;]*;");
 
     private final Due due = new Due();
     private final TreeMap<String, String> sections = new TreeMap<>();
@@ -34,6 +40,7 @@ final class SentencesTest {
         test.read();
         test.quotesStandInTheDocument();
         test.everySentenceIsQuoted();
+        test.faceIsTheDocuments();
         test.due.end();
     }
 
@@ -65,13 +72,24 @@ final class SentencesTest {
 
     private void everySentenceIsQuoted() {
         for (String title : sections.keySet()) {
-            if (title.equals("Terms") || title.startsWith("Promise ")) {
+            if (title.equals("What it is") || title.equals("Terms") || title.startsWith("Promise ")) {
                 // A sentence ends with a full stop before a capital letter, a code or a bracket: "0 .. 31" has none.
                 for (String sentence : sections.get(title).split("(?<=[\\w)`]\\.\\)?) (?=[A-Z`(])")) {
                     due.is(title + ": \"" + sentence + "\" is quoted by a test", isQuoted(sentence), true);
                 }
             }
         }
+    }
+
+    private void faceIsTheDocuments() {
+        TreeSet<String> shown = new TreeSet<>();
+        Matcher member = MEMBER.matcher(sections.get("The public face"));
+        while (member.find()) {
+            // FaceTest tells a member as reflection does: without a constant's value and without parameters' names.
+            String bare = member.group().replaceAll(" = -?\\d+|;", "");
+            shown.add(bare.replaceAll("int \\w+(?=[,)])", "int").replace(", ", ","));
+        }
+        due.is("the public face", shown.toString(), new TreeSet<>(List.of(FaceTest.FACE)).toString());
     }
 
     private boolean isQuoted(String sentence) {
